@@ -471,7 +471,9 @@ public final class NestShelf {
 
         void addNotesOf(Thing child) {
             total += child.total;
-            longest = Math.max(longest, child.longest + 1);
+            if (longest <= child.longest) {
+                longest = child.longest + 1;
+            }
         }
 
         boolean looksLike(Thing other) {
@@ -516,21 +518,21 @@ public final class NestShelf {
             startMetAgain = false;
             Thing at = arrive(first, null);
             for (int step = 0; step < MOST_STEPS && at != null; step++) {
-                at = stepFrom(at);
+                int place = at.nextPlace;
+                if (place < 0 || place >= at.hung.length) {
+                    at = leave(at);
+                } else {
+                    at.nextPlace = place + 1;
+                    at = meet(at.hung[place], at);
+                }
             }
         }
 
-        private Thing stepFrom(Thing at) {
-            int place = at.nextPlace;
-            if (place < 0 || place >= at.hung.length) {
-                return leave(at);
-            }
-            at.nextPlace = place + 1;
-            Thing child = at.hung[place];
-            return child == null ? at : meet(child, at);
-        }
-
+        /** Answers the thing to go on from. */
         private Thing meet(Thing child, Thing from) {
+            if (child == null) {
+                return from;
+            }
             if (child.walkNumber != current) {
                 return arrive(child, from);
             }

@@ -173,11 +173,14 @@ final class OracleTest {
         for (int k = 0; k < 90; k++) {
             hang(row, random.nextInt(500), token(anyValue(), random.nextInt(4) != 0));
         }
-        while (calls < CALLS - 100) {
+        while (oracle.count() < 1600 + random.nextInt(400) && calls < CALLS - 200) {
+            row = Math.max(0, copy(row, 1));
+        }
+        while (calls < CALLS - 20) {
             int t = random.nextInt(3) == 0 ? row : anyThing();
             int choice = random.nextInt(6);
             if (choice <= 1) {
-                row = Math.max(0, copy(t, random.nextInt(4)));
+                copy(t, random.nextInt(4));
             } else if (choice == 2) {
                 anyNewThing();
             } else if (choice == 3) {

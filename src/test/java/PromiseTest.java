@@ -403,6 +403,7 @@ final class PromiseTest {
         y.token(1, false);
         y.token(1, true);
         Due.is("plain and ranked", y.equal(0, 1), 0);
+        equalValues();
         y.make(0, 2);
         y.make(0, 3);
         Due.is("lengths", y.equal(2, 3), 0);
@@ -431,6 +432,18 @@ final class PromiseTest {
         y.put(4, 1, 0);
         Due.is("unlike below", y.equal(7, 8), 0);
         status("equal", y, 0);
+    }
+
+    private static void equalValues() {
+        NestShelf x = new NestShelf();
+        for (int v : new int[] {4, 5, 4}) {
+            x.token(v, true);
+            x.token(v, false);
+        }
+        Due.is("ranked, unlike values", x.equal(0, 2), 0);
+        Due.is("plain, unlike values", x.equal(1, 3), 0);
+        Due.is("ranked, like values", x.equal(0, 4), 1);
+        Due.is("plain, like values", x.equal(1, 5), 1);
     }
 
     // Equality asks what hangs, not in how many places the same thing hangs.
