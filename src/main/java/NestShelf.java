@@ -477,7 +477,7 @@ public final class NestShelf {
         }
 
         boolean looksLike(Thing other) {
-            if (kind != other.kind || value != other.value || sum != other.sum) {
+            if (kind != other.kind || value != other.value) {
                 return false;
             }
             return hung.length == other.hung.length && hasNumbersOf(other);

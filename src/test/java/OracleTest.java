@@ -28,11 +28,17 @@ final class OracleTest {
         for (long seed = 0; seed < 40 && !Due.anyWrong(); seed++) {
             new OracleTest("deep", seed).towardsDeep();
         }
+        for (long seed = 0; seed < 200 && !Due.anyWrong(); seed++) {
+            new OracleTest("wild", seed).wildArguments();
+        }
         Due.end();
     }
 
     private void check(String call, long got, long want) {
         calls++;
+        if (calls > CALLS) {
+            throw new AssertionError(name + " goes on beyond what the document promises");
+        }
         Due.is(name + ", call " + calls + ": " + call, got, want);
     }
 
@@ -221,5 +227,33 @@ final class OracleTest {
                 ask(new int[] {6, 7, 8, 11}[random.nextInt(4)], t, anyThing(), 0);
             }
         }
+    }
+
+    private int wildInt() {
+        int[] wild = {Integer.MIN_VALUE, Integer.MIN_VALUE + 1, -2, -1, 0, 1, 2, 8, 9, 499, 500, 501, 1999, 2000,
+            oracle.count() - 1, oracle.count(), Integer.MAX_VALUE - 1, Integer.MAX_VALUE};
+        return wild[random.nextInt(wild.length)];
+    }
+
+    // Arguments that are mostly wrong: the machine itself may not throw, nor anything change.
+    private void wildArguments() {
+        while (calls < CALLS - 130) {
+            int t = random.nextBoolean() ? anyThing() : wildInt();
+            int choice = random.nextInt(10);
+            if (choice == 0) {
+                token(wildInt(), random.nextBoolean());
+            } else if (choice == 1) {
+                make(random.nextBoolean() ? random.nextInt(7) : wildInt(), wildInt());
+            } else if (choice == 2) {
+                put(t, wildInt(), random.nextLong());
+            } else if (choice <= 4) {
+                hang(t, random.nextBoolean() ? anyPlace(t) : wildInt(), random.nextBoolean() ? anyThing() : wildInt());
+            } else if (choice == 5 && oracle.count() < 100) {
+                copy(t, wildInt());
+            } else {
+                ask(random.nextInt(13), t, random.nextBoolean() ? anyThing() : wildInt(), wildInt());
+            }
+        }
+        fullLook();
     }
 }

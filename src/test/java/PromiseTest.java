@@ -37,48 +37,6 @@ final class PromiseTest {
         Due.is("status after " + call, x.status(), want);
     }
 
-    /** Things 0 to 8, thing k of KIND k, rows with two places, tokens with values 70 and 80. */
-    private static NestShelf oneOfEach() {
-        NestShelf x = new NestShelf();
-        for (int kind = 0; kind <= 6; kind++) {
-            Due.is("make(" + kind + ", 2)", x.make(kind, 2), kind);
-        }
-        Due.is("token(70, false)", x.token(70, false), 7);
-        Due.is("token(80, true)", x.token(80, true), 8);
-        return x;
-    }
-
-    /** A full shelf in a few calls: a row of 99 tokens, copied. Thing 0 is the row. */
-    private static NestShelf withThings(int wanted) {
-        NestShelf x = new NestShelf();
-        x.make(4, 99);
-        for (int i = 0; i < 99; i++) {
-            x.hang(0, i, x.token(i, true));
-        }
-        while (x.count() + 100 <= wanted) {
-            Due.is("copy(0, 1)", x.copy(0, 1), x.count() - 100);
-        }
-        while (x.count() < wanted) {
-            x.token(0, false);
-        }
-        Due.is("count()", x.count(), wanted);
-        return x;
-    }
-
-    /** A chain of plain tokens 0, 1, .. n - 1, each hanging in the one before; n is 25 times a power of 2. */
-    private static NestShelf chain(int n) {
-        NestShelf x = new NestShelf();
-        x.token(1, false);
-        for (int k = 1; k < 25; k++) {
-            x.hang(k - 1, 0, x.token(1, false));
-        }
-        for (int size = 25; size < n; size *= 2) {
-            Due.is("copy(0, 1) of a chain", x.copy(0, 1), size);
-            x.hang(size - 1, 0, size);
-        }
-        return x;
-    }
-
     private static void newObject() {
         NestShelf x = new NestShelf();
         status("new", x, 0);
@@ -108,7 +66,7 @@ final class PromiseTest {
     }
 
     private static void makeAndTokenWhenFull() {
-        NestShelf x = withThings(1999);
+        NestShelf x = Shelves.withThings(1999);
         Due.is("make as thing 2000", x.make(2, 3), 1999);
         Due.is("make when full", x.make(0, 1), -2);
         Due.is("make when full, n below 0", x.make(0, -1), -2);
@@ -118,7 +76,7 @@ final class PromiseTest {
         Due.is("count() when full", x.count(), 2000);
         Due.is("kind(1999)", x.kind(1999), 2);
         Due.is("kind(2000)", x.kind(2000), -1);
-        NestShelf y = withThings(1999);
+        NestShelf y = Shelves.withThings(1999);
         Due.is("token as thing 2000", y.token(5, true), 1999);
         Due.is("number(1999, 0)", y.number(1999, 0), 5);
     }
@@ -135,7 +93,7 @@ final class PromiseTest {
     }
 
     private static void put() {
-        NestShelf x = oneOfEach();
+        NestShelf x = Shelves.oneOfEach();
         long[] values = {0, 1, -1, Integer.MAX_VALUE, Integer.MIN_VALUE, 1L << 31, 1L << 32, 65535, 65536, -65536,
             32768, Long.MAX_VALUE, Long.MIN_VALUE, 0x123456789abcdefL};
         for (long v : values) {
@@ -167,7 +125,7 @@ final class PromiseTest {
     private static void hangWhatMayHang() {
         String[] allowed = {"", "", "", "0", "78", "46", "8", "012345678"};
         for (int kind = 3; kind <= 7; kind++) {
-            NestShelf x = oneOfEach();
+            NestShelf x = Shelves.oneOfEach();
             for (int child = 0; child <= 8; child++) {
                 boolean may = allowed[kind].indexOf((char) ('0' + child)) >= 0;
                 int before = x.below(kind, 0);
@@ -183,7 +141,7 @@ final class PromiseTest {
     }
 
     private static void hangRefused() {
-        NestShelf x = oneOfEach();
+        NestShelf x = Shelves.oneOfEach();
         for (int thing : new int[] {-1, 9, LOW, HIGH}) {
             Due.is("hang(" + thing + ", 0, 0)", x.hang(thing, 0, 0), 1);
             Due.is("hang(" + thing + ", 0, -1)", x.hang(thing, 0, -1), 1);
@@ -206,7 +164,7 @@ final class PromiseTest {
     }
 
     private static void kindAndLength() {
-        NestShelf x = oneOfEach();
+        NestShelf x = Shelves.oneOfEach();
         for (int kind = 0; kind <= 8; kind++) {
             Due.is("kind(" + kind + ")", x.kind(kind), kind);
             Due.is("length(" + kind + ")", x.length(kind), kind == 8 ? 0 : kind == 7 ? 1 : 2);
@@ -218,7 +176,7 @@ final class PromiseTest {
     }
 
     private static void number() {
-        NestShelf x = oneOfEach();
+        NestShelf x = Shelves.oneOfEach();
         x.put(1, 0, -1);
         Due.is("number(1, 0)", x.number(1, 0), -1);
         status("number", x, 0);
@@ -246,7 +204,7 @@ final class PromiseTest {
     }
 
     private static void below() {
-        NestShelf x = oneOfEach();
+        NestShelf x = Shelves.oneOfEach();
         x.hang(7, 0, 7);
         Due.is("below(7, 0)", x.below(7, 0), 7);
         status("below(7, 0)", x, 0);
@@ -269,7 +227,7 @@ final class PromiseTest {
     }
 
     private static void isAndAs() {
-        NestShelf x = oneOfEach();
+        NestShelf x = Shelves.oneOfEach();
         String[] passing = {"0", "1", "2", "3", "46", "5", "6", "78", "8"};
         for (int test = 0; test <= 8; test++) {
             for (int thing = 0; thing <= 8; thing++) {
@@ -293,7 +251,7 @@ final class PromiseTest {
     }
 
     private static void weight() {
-        NestShelf x = oneOfEach();
+        NestShelf x = Shelves.oneOfEach();
         x.put(1, 0, Long.MAX_VALUE);
         x.put(1, 1, 2);
         Due.is("weight(1) wraps", x.weight(1), Long.MIN_VALUE + 1);
@@ -345,7 +303,7 @@ final class PromiseTest {
     }
 
     private static void depthAndTooDeep() {
-        NestShelf x = chain(400);
+        NestShelf x = Shelves.chain(400);
         Due.is("count of the chain", x.count(), 400);
         Due.is("depth(399)", x.depth(399), 1);
         Due.is("depth(0)", x.depth(0), 400);
@@ -378,7 +336,7 @@ final class PromiseTest {
     }
 
     private static void depthTakesTheLongestWay() {
-        NestShelf x = oneOfEach();
+        NestShelf x = Shelves.oneOfEach();
         x.hang(4, 0, 7);
         x.hang(4, 1, 8);
         Due.is("depth(4)", x.depth(4), 2);
@@ -393,7 +351,7 @@ final class PromiseTest {
     }
 
     private static void equal() {
-        NestShelf x = oneOfEach();
+        NestShelf x = Shelves.oneOfEach();
         for (int a = 0; a <= 8; a++) {
             for (int b = 0; b <= 8; b++) {
                 Due.is("equal(" + a + ", " + b + ")", x.equal(a, b), a == b ? 1 : 0);
@@ -467,7 +425,7 @@ final class PromiseTest {
     }
 
     private static void equalFirstReason() {
-        NestShelf x = chain(400);
+        NestShelf x = Shelves.chain(400);
         x.hang(x.token(1, false), 0, 0);
         x.hang(x.token(1, false), 0, 401);
         Due.is("deep and ring", x.equal(400, 401), -1);
@@ -508,7 +466,7 @@ final class PromiseTest {
     }
 
     private static void sort() {
-        NestShelf x = oneOfEach();
+        NestShelf x = Shelves.oneOfEach();
         for (int kind : new int[] {0, 1, 2, 3, 5, 7, 8}) {
             Due.is("sort(" + kind + ")", x.sort(kind), 4);
         }
@@ -558,7 +516,7 @@ final class PromiseTest {
     }
 
     private static void copyShallow() {
-        NestShelf x = oneOfEach();
+        NestShelf x = Shelves.oneOfEach();
         x.put(0, 1, -9);
         x.put(1, 0, 1L << 40);
         x.put(2, 0, 65535);
@@ -588,7 +546,7 @@ final class PromiseTest {
     }
 
     private static void copyDeepNumbers() {
-        NestShelf x = oneOfEach();
+        NestShelf x = Shelves.oneOfEach();
         // 5 holds 4 and 6, 4 holds 7 and 8, 7 holds 3, 3 holds 0 twice, 6 holds 8 twice.
         x.hang(5, 0, 4);
         x.hang(5, 1, 6);
@@ -619,7 +577,7 @@ final class PromiseTest {
     }
 
     private static void copyRefused() {
-        NestShelf x = withThings(1900);
+        NestShelf x = Shelves.withThings(1900);
         Due.is("deep copy up to 2000", x.copy(0, 1), 1900);
         status("deep copy up to 2000", x, 0);
         Due.is("deep copy when full", x.copy(1, 1), -1);
@@ -630,7 +588,7 @@ final class PromiseTest {
         Due.is("no such thing when full", x.copy(2000, 0), -1);
         status("no such thing when full", x, 1);
         Due.is("count()", x.count(), 2000);
-        NestShelf y = withThings(1901);
+        NestShelf y = Shelves.withThings(1901);
         Due.is("deep copy up to 2001", y.copy(0, 1), -1);
         status("deep copy up to 2001", y, 7);
         Due.is("nothing was made", y.count(), 1901);
@@ -648,7 +606,7 @@ final class PromiseTest {
     }
 
     private static void ringAheadOfFull() {
-        NestShelf y = withThings(1999);
+        NestShelf y = Shelves.withThings(1999);
         int ringed = y.token(0, false);
         y.hang(ringed, 0, ringed);
         Due.is("ring and full", y.copy(ringed, 1), -1);
@@ -720,7 +678,7 @@ final class PromiseTest {
     }
 
     private static void statusIsLeftAlone() {
-        NestShelf x = oneOfEach();
+        NestShelf x = Shelves.oneOfEach();
         int want = 1;
         for (int round = 0; round < 2; round++) {
             if (round == 0) {
