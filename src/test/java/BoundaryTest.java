@@ -14,6 +14,7 @@ final class BoundaryTest {
         refusedCallsTakeNoNumber();
         eachWayToTheLastThing();
         emptyShelf();
+        shelvesAreApart();
         emptyRows();
         lastPlaces();
         placesAtFirst();
@@ -159,6 +160,35 @@ final class BoundaryTest {
                 Due.is("count", fresh.count(), 0);
             }
         }
+    }
+
+    // "No thing is there; the STATUS is 0": of a new object, whatever others hold and were asked.
+    private static void shelvesAreApart() {
+        NestShelf x = Shelves.oneOfEach();
+        Due.is("equal, refused", x.equal(0, 99), -1);
+        NestShelf y = new NestShelf();
+        status("new beside another", y, 0);
+        Due.is("count of the new one", y.count(), 0);
+        y.token(1, false);
+        y.token(2, false);
+        Due.is("hang(0, 0, 1) in the new one", y.hang(0, 0, 1), 0);
+        status("calls on another", x, 1);
+        Due.is("kind(0) of the old one", x.kind(0), 0);
+        Due.is("depth(7) of the old one", x.depth(7), 1);
+        Due.is("below, refused, in the new one", y.below(0, 1), -2);
+        status("a refusal by another", x, 0);
+        Due.is("weight(0) of the new one", y.weight(0), 3);
+        x.hang(7, 0, 7);
+        Due.is("ring(7) of the old one", x.ring(7), 1);
+        Due.is("ring(0) of the new one", y.ring(0), 0);
+        Due.is("copy in the old one", x.copy(8, 1), 9);
+        Due.is("copy in the new one", y.copy(0, 1), 2);
+        Due.is("equal in the new one", y.equal(0, 2), 1);
+        Due.is("count of the old one", x.count(), 10);
+        Due.is("count of the new one", y.count(), 4);
+        Due.is("weight(7) of the old one", x.weight(7), -1);
+        status("a weight of another", y, 0);
+        status("its own weight", x, 5);
     }
 
     // "a LENGTH of 0 .. 500": a row without a place.
